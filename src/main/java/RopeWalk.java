@@ -360,13 +360,17 @@ public final class RopeWalk {
     float most = 0.0f;
     for (int k = 0; k < piece.parts.length; k++) {
       Piece part = piece.parts[k];
-      int at = k == 0 ? place : place - piece.secondFrom;
+      int at = place - splicedFrom(piece, k);
       if (part != null && at >= 0 && at < part.length) {
         float borne = bearing(part, at, depth + 1);
         most = borne > most ? borne : most;
       }
     }
     return most;
+  }
+
+  private static int splicedFrom(Piece piece, int k) {
+    return k == 0 ? 0 : piece.secondFrom;
   }
 
   private static float worn(Piece piece, int place, float base) {
@@ -379,10 +383,57 @@ public final class RopeWalk {
     return borne;
   }
 
+  /**
+   * A place behind this one up to which the piece bears the same as here; at most its length. It
+   * spares asking one by one the thousands of places between which nothing changes.
+   */
+  private static int steadyTo(Piece piece, int place, int depth) {
+    if (piece == null || depth > DEEPEST) return place + 1;
+    int until = piece.length;
+    for (int k = 0; k < piece.parts.length; k++) {
+      int partUntil = piece.kind == SPLICE
+          ? splicedSteadyTo(piece, k, place, depth)
+          : laidSteadyTo(piece, k, place, depth);
+      until = Math.min(until, partUntil);
+    }
+    return rowSteadyTo(piece, place, until);
+  }
+
+  /** The first place of the whole that is on the first place of its part at which that changes. */
+  private static int laidSteadyTo(Piece whole, int k, int place, int depth) {
+    Piece part = whole.parts[k];
+    if (part == null || part.length < 1) return place + 1;
+    int until = steadyTo(part, placeOn(part, whole, place), depth + 1);
+    return (until * whole.length + part.length - 1) / part.length;
+  }
+
+  private static int splicedSteadyTo(Piece whole, int k, int place, int depth) {
+    Piece part = whole.parts[k];
+    if (part == null) return place + 1;
+    int from = splicedFrom(whole, k);
+    if (place < from) return from;
+    if (place - from >= part.length) return whole.length;
+    return from + steadyTo(part, place - from, depth + 1);
+  }
+
+  private static int rowSteadyTo(Piece piece, int place, int most) {
+    int until = most;
+    for (int i = 0; i < piece.spots && i < MOST_SPOTS; i++) {
+      if (piece.share[i] >= 0 && piece.from[i] <= piece.to[i]) {
+        if (place < piece.from[i]) {
+          until = Math.min(until, piece.from[i]);
+        } else if (place <= piece.to[i]) {
+          until = Math.min(until, piece.to[i] + 1);
+        }
+      }
+    }
+    return until;
+  }
+
   private static int weakestPlace(Piece piece) {
     int weakest = 0;
     float least = bearing(piece, 0, 0);
-    for (int x = 1; x < piece.length; x++) {
+    for (int x = 0; x < piece.length; x = Math.max(x + 1, steadyTo(piece, x, 0))) {
       float borne = bearing(piece, x, 0);
       if (borne < least) {
         least = borne;
@@ -658,33 +709,49 @@ public final class RopeWalk {
   private int fitOn(int r, Order order) {
     if (!isReel(r)) return -1;
     Reel reel = reels[r];
-    int length = lengthOn(r);
     int start = 0;
-    for (int x = 0; x < length && x < LONGEST; x++) {
-      if (reel.bears[x] < order.need || isOnTrial(r, x)) start = x + 1;
-      if (x + 1 - start >= order.length) return start;
+    for (int i = 0; i < reel.stretches && i < LONGEST; i++) {
+      if (reel.borne[i] < order.need) {
+        start = Math.max(start, reel.ends[i]);
+      } else {
+        start = besideTrials(r, start, order.length);
+        if (start + order.length <= reel.ends[i]) return start;
+      }
     }
     return -1;
   }
 
-  private boolean isOnTrial(int r, int x) {
-    for (int o = 0; o < orderCount && o < MOST_ORDERS; o++) {
-      Order order = orders[o];
-      if (order != null && order.trialReel == r && order.trialPlace <= x
-          && x < order.trialPlace + order.length) {
-        return true;
+  /** The first place from start on where this length meets no stretch that is cut on trial. */
+  private int besideTrials(int r, int start, int length) {
+    int from = start;
+    // Behind a stretch the place stays behind it: each of them moves it once at most.
+    for (int times = 0; times < MOST_ORDERS; times++) {
+      for (int o = 0; o < orderCount && o < MOST_ORDERS; o++) {
+        Order other = orders[o];
+        if (other != null && other.trialReel == r && from < other.trialPlace + other.length
+            && other.trialPlace < from + length) {
+          from = other.trialPlace + other.length;
+        }
       }
     }
-    return false;
+    return from;
   }
 
   private void measureReels() {
     for (int r = 0; r < REELS; r++) {
-      Reel reel = reels[r];
-      int length = lengthOn(r);
-      for (int x = 0; x < length && x < LONGEST; x++) {
-        reel.bears[x] = bearing(reel.piece, x, 0);
-      }
+      measure(reels[r]);
+    }
+  }
+
+  private static void measure(Reel reel) {
+    Piece piece = reel.piece;
+    int place = 0;
+    reel.stretches = 0;
+    for (int i = 0; piece != null && place < piece.length && i < LONGEST; i++) {
+      reel.borne[i] = bearing(piece, place, 0);
+      place = Math.max(place + 1, steadyTo(piece, place, 0));
+      reel.ends[i] = place;
+      reel.stretches = i + 1;
     }
   }
 
@@ -779,8 +846,10 @@ public final class RopeWalk {
 
   private static final class Reel {
     private Piece piece;
-    /** What the piece bears, place by place, when it was last measured. */
-    private final float[] bears = new float[LONGEST];
+    /** As it was last measured: stretches of places, what the piece bears there, and their ends. */
+    private int stretches;
+    private final float[] borne = new float[LONGEST];
+    private final int[] ends = new int[LONGEST];
   }
 
   private static final class Order {

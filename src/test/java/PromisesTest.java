@@ -551,6 +551,14 @@ public final class PromisesTest {
     due.is("untold there", x.spot(1, 3, 0, 0, -1), 0);
     due.is("the source is as it was", x.spot(0, 0, 0, 0, -1), 1);
     carryOnItself();
+    due.is("a share of 0 is told", x.spot(0, 0, 0, 0, 0), 0);
+    due.is("told ones of the whole row", x.carry(0, 0, 0, 0, 0), 2);
+    x.row(1, 0);
+    due.is("from an empty row", x.carry(1, 0, 0, 3, 0), 2);
+    due.is("to an empty row", x.carry(0, 3, 1, 0, 0), 0);
+    due.is("more than that", x.carry(0, 0, 1, 0, 1), -11);
+    x.row(1, 8);
+    due.is("to the end of a full row", x.carry(0, 0, 1, 5, 3), 2);
     x.row(s, 3);
     x.untwist(s);
     due.is("gone", x.carry(s, 0, 0, 0, 0), -2);
@@ -691,7 +699,11 @@ public final class PromisesTest {
     due.is("the strand", x.where(s), 5);
     x.spot(0, 2, 0, 0, 3);
     due.is("the first place", x.where(0), 0);
-    x.spot(0, 0, 11, 11, 2);
+    x.spot(0, 2, 1, 11, 7);
+    x.spot(0, 0, 1, 1, 2);
+    x.spot(0, 1, 0, 0, 1);
+    due.is("less on the first place than on the second", x.where(0), 0);
+    x.spot(0, 0, 11, 11, 0);
     due.is("the last place", x.where(0), 11);
     x.untwist(s);
     due.is("gone", x.where(s), -2);
@@ -1017,6 +1029,7 @@ public final class PromisesTest {
     due.is("the second finds none", x.fewest(), -1);
     x.join(0);
     due.is("cut(1)", x.cut(1), 0);
+    due.is("cut from reel 0 already", x.cut(1), -2);
     due.is("the weak reel is left", x.fewest(), 20);
     due.is("cut(0)", x.cut(0), 10000);
     due.is("none are left", x.fewest(), 0);
@@ -1056,6 +1069,8 @@ public final class PromisesTest {
     due.is("the first", x.unstage(), 0);
     due.is("none again", x.unstage(), -2);
     due.is("count(8)", x.count(8), 0);
+    for (int k = 0; k < 10; k++) x.stage(k % 9);
+    for (int k = 9; k >= 0; k--) due.is("of ten", x.unstage(), k % 9);
   }
 
   private static void pull() {

@@ -18,6 +18,11 @@ final class Due {
     if (got != want) tell(call, Double.toString(got), Double.toString(want));
   }
 
+  void same(String what, String got, String want) {
+    asked++;
+    if (!got.equals(want)) tell(what, got, want);
+  }
+
   void holds(String what, boolean does) {
     asked++;
     if (!does) tell(what, "false", "true");

@@ -3,6 +3,8 @@ import java.util.Random;
 /** Long runs of calls, the same ones each time, against the naive program. */
 public final class ModelTest {
   private static final int ACTS = 256;
+  /** What an object answers is told up to this call. */
+  private static final int TOLD = 512;
   private static final Due due = new Due();
 
   private final Random random;
@@ -12,6 +14,7 @@ public final class ModelTest {
   private final boolean strange;
   private final boolean sound;
   private final int usual;
+  private int calls = 0;
 
   private ModelTest(long seed) {
     random = new Random(seed);
@@ -23,7 +26,7 @@ public final class ModelTest {
   }
 
   public static void main(String[] args) {
-    int runs = args.length > 0 ? Integer.parseInt(args[0]) : 1500;
+    int runs = args.length > 0 ? Integer.parseInt(args[0]) : 3000;
     for (long seed = 0; seed < runs && due.allRight(); seed++) {
       due.about("run " + seed);
       new ModelTest(seed).run();
@@ -36,15 +39,23 @@ public final class ModelTest {
     for (int n = 0; n < ropes; n++) makeRope(usual);
     for (int n = 0; n < ropes; n++) join();
     int first = ropes > 0 ? 0 : below(12);
-    for (int n = 0; n < ACTS; n++) {
+    for (int n = 0; n < ACTS && calls < TOLD; n++) {
       if (n < first) build();
       else any();
     }
-    for (int p = 0; p < walk.count(0); p++) {
-      for (int what = 0; what < 8; what++) {
-        due.is("of(" + p + ", " + what + ")", walk.of(p, what), model.of(p, what));
-      }
+    for (int n = 0; calls < TOLD && n < 8 * model.count(0); n++) {
+      is("of(" + n / 8 + ", " + n % 8 + ")", walk.of(n / 8, n % 8), model.of(n / 8, n % 8));
     }
+  }
+
+  private void is(String call, long got, long want) {
+    calls++;
+    if (calls <= TOLD) due.is(call, got, want);
+  }
+
+  private void isReal(String call, double got, double want) {
+    calls++;
+    if (calls <= TOLD) due.isReal(call, got, want);
   }
 
   private int below(int n) {
@@ -65,12 +76,12 @@ public final class ModelTest {
   }
 
   private int piece() {
-    return from(0, Math.max(0, walk.count(0) - 1));
+    return from(0, Math.max(0, model.count(0) - 1));
   }
 
   /** A free piece of this kind and twist (-1: of any); failing that, another rope, then any. */
   private int freeOf(int kind, int twist) {
-    int pieces = walk.count(0);
+    int pieces = model.count(0);
     int rope = -1;
     for (int tries = 0; tries < 200 && pieces > 0; tries++) {
       int p = below(pieces);
@@ -82,23 +93,23 @@ public final class ModelTest {
   }
 
   private void pick(int p) {
-    due.is("pick(" + p + ")", walk.pick(p), model.pick(p));
+    is("pick(" + p + ")", walk.pick(p), model.pick(p));
   }
 
   private void drop() {
-    due.is("drop()", walk.drop(), model.drop());
+    is("drop()", walk.drop(), model.drop());
   }
 
   private void lay(int kind, int twist, int turns) {
-    due.is("lay(" + kind + ", " + twist + ", " + turns + ")", walk.lay(kind, twist, turns),
+    is("lay(" + kind + ", " + twist + ", " + turns + ")", walk.lay(kind, twist, turns),
         model.lay(kind, twist, turns));
   }
 
   private void spin() {
     int length = from(1, longest);
     int eighths = below(6) == 0 ? from(0, 80000) : from(8, 60);
-    if (below(3) > 0) due.is("yarn", walk.yarn(length, eighths), model.yarn(length, eighths));
-    else due.is("tape", walk.tape(length, eighths), model.tape(length, eighths));
+    if (below(3) > 0) is("yarn", walk.yarn(length, eighths), model.yarn(length, eighths));
+    else is("tape", walk.tape(length, eighths), model.tape(length, eighths));
   }
 
   /** A new piece, most often with all its parts made for it, or wear for an old one. */
@@ -136,7 +147,7 @@ public final class ModelTest {
     int parts = below(12) == 0 ? 1 + below(10) : 2;
     for (int i = 0; i < parts; i++) {
       spin();
-      pick(walk.count(0) - 1);
+      pick(model.count(0) - 1);
     }
     lay(1, twist, below(2) == 0 ? 0 : from(0, 400));
   }
@@ -146,7 +157,7 @@ public final class ModelTest {
     int[] strands = new int[parts];
     for (int i = 0; i < strands.length; i++) {
       makeStrand(below(40) == 0 ? twist : 3 - twist);
-      strands[i] = walk.count(0) - 1;
+      strands[i] = model.count(0) - 1;
       if (below(5) == 0) wear();
     }
     drop();
@@ -156,7 +167,7 @@ public final class ModelTest {
 
   private void layCable(int twist) {
     drop();
-    for (int i = 0; i < 12 && walk.count(5) < 3; i++) pick(freeOf(below(2) == 0 ? 2 : 5, 3 - twist));
+    for (int i = 0; i < 12 && model.count(5) < 3; i++) pick(freeOf(below(2) == 0 ? 2 : 5, 3 - twist));
     lay(3, twist, below(2) == 0 ? 0 : from(0, 400));
   }
 
@@ -166,13 +177,13 @@ public final class ModelTest {
     for (int i = 0; i < 12 && b == a; i++) b = freeOf(2 + below(2), twist);
     int most = Math.max(1, Math.min(model.of(a, 1), model.of(b, 1)));
     int over = below(4) == 0 ? from(1, longest) : below(5) == 0 ? most : 1 + below(most);
-    due.is("splice(" + a + ", " + b + ", " + over + ")", walk.splice(a, b, over), model.splice(a, b, over));
+    is("splice(" + a + ", " + b + ", " + over + ")", walk.splice(a, b, over), model.splice(a, b, over));
   }
 
   private void wear() {
     int p = piece();
     int n = from(0, 8);
-    due.is("row(" + p + ", " + n + ")", walk.row(p, n), model.row(p, n));
+    is("row(" + p + ", " + n + ")", walk.row(p, n), model.row(p, n));
     for (int i = below(3); i < n && i < 8; i += 1 + below(3)) spot(p, i);
   }
 
@@ -181,7 +192,7 @@ public final class ModelTest {
     int start = below(4) == 0 ? from(0, 2000) : from(0, length);
     int end = below(4) == 0 ? from(0, 2000) : from(start, start + 1 + length / 8);
     int eighths = sound ? from(6, 8) : from(-1, 8);
-    due.is("spot(" + p + ", " + i + ", " + start + ", " + end + ", " + eighths + ")",
+    is("spot(" + p + ", " + i + ", " + start + ", " + end + ", " + eighths + ")",
         walk.spot(p, i, start, end, eighths), model.spot(p, i, start, end, eighths));
   }
 
@@ -219,13 +230,13 @@ public final class ModelTest {
         wear();
         break;
       case 1:
-        if (below(3) == 0) due.is("lose(" + p + ")", walk.lose(p), model.lose(p));
+        if (below(3) == 0) is("lose(" + p + ")", walk.lose(p), model.lose(p));
         break;
       case 2:
         int i = from(0, 5);
         int k = from(0, 5);
         int n = from(0, 4);
-        due.is("carry(" + p + ", " + i + ", " + q + ", " + k + ", " + n + ")",
+        is("carry(" + p + ", " + i + ", " + q + ", " + k + ", " + n + ")",
             walk.carry(p, i, q, k, n), model.carry(p, i, q, k, n));
         break;
       default:
@@ -238,16 +249,16 @@ public final class ModelTest {
     int k = from(0, 8);
     switch (below(6)) {
       case 0:
-        due.is("of(" + p + ", " + k + ")", walk.of(p, k), model.of(p, k));
+        is("of(" + p + ", " + k + ")", walk.of(p, k), model.of(p, k));
         break;
       case 1:
-        due.is("part(" + p + ", " + k + ")", walk.part(p, k), model.part(p, k));
+        is("part(" + p + ", " + k + ")", walk.part(p, k), model.part(p, k));
         break;
       case 2:
-        due.is("count(" + k + ")", walk.count(k), model.count(k));
+        is("count(" + k + ")", walk.count(k), model.count(k));
         break;
       case 3:
-        due.is("untwist(" + p + ")", walk.untwist(p), model.untwist(p));
+        is("untwist(" + p + ")", walk.untwist(p), model.untwist(p));
         break;
       case 4:
         if (below(3) == 0) drop();
@@ -263,24 +274,24 @@ public final class ModelTest {
     switch (below(7)) {
       case 0:
         int x = from(0, Math.max(1, model.of(p, 1)) - 1);
-        due.isReal("bears(" + p + ", " + x + ")", walk.bears(p, x), model.bears(p, x));
+        isReal("bears(" + p + ", " + x + ")", walk.bears(p, x), model.bears(p, x));
         break;
       case 1:
-        due.isReal("least(" + p + ")", walk.least(p), model.least(p));
+        isReal("least(" + p + ")", walk.least(p), model.least(p));
         break;
       case 2:
-        due.is("where(" + p + ")", walk.where(p), model.where(p));
+        is("where(" + p + ")", walk.where(p), model.where(p));
         break;
       case 3:
-        due.is("grams(" + p + ")", walk.grams(p), model.grams(p));
+        is("grams(" + p + ")", walk.grams(p), model.grams(p));
         break;
       case 4:
         int e = from(1, below(2) == 0 ? 80000 : 90);
-        due.isReal("rest(" + p + ", " + e + ")", walk.rest(p, e), model.rest(p, e));
+        isReal("rest(" + p + ", " + e + ")", walk.rest(p, e), model.rest(p, e));
         break;
       case 5:
         int t = from(1, below(2) == 0 ? 1000000 : 9000);
-        due.isReal("left(" + p + ", " + t + ")", walk.left(p, t), model.left(p, t));
+        isReal("left(" + p + ", " + t + ")", walk.left(p, t), model.left(p, t));
         break;
       default:
         turned(p);
@@ -291,7 +302,7 @@ public final class ModelTest {
     int near = (int) (model.least(p) * 8) + below(40) - 20;
     int e = below(3) > 0 && near >= 0 ? near : from(0, 80000);
     for (int how = -1; how < 14; how++) {
-      due.is("turned(" + p + ", " + e + ", " + how + ")", walk.turned(p, e, how), model.turned(p, e, how));
+      is("turned(" + p + ", " + e + ", " + how + ")", walk.turned(p, e, how), model.turned(p, e, how));
     }
   }
 
@@ -302,37 +313,37 @@ public final class ModelTest {
       case 0:
       case 1:
         int p = below(4) == 0 ? piece() : freeOf(below(6), -1);
-        due.is("hang(" + r + ", " + p + ")", walk.hang(r, p), model.hang(r, p));
+        is("hang(" + r + ", " + p + ")", walk.hang(r, p), model.hang(r, p));
         break;
       case 2:
-        due.is("off(" + r + ")", walk.off(r), model.off(r));
+        is("off(" + r + ")", walk.off(r), model.off(r));
         break;
       case 3:
         int kind = from(0, 5);
-        due.is("take(" + r + ", " + kind + ")", walk.take(r, kind), model.take(r, kind));
+        is("take(" + r + ", " + kind + ")", walk.take(r, kind), model.take(r, kind));
         break;
       case 4:
         order();
         break;
       case 5:
       case 6:
-        due.is("cut(" + o + ")", walk.cut(o), model.cut(o));
+        is("cut(" + o + ")", walk.cut(o), model.cut(o));
         break;
       case 7:
-        due.is("join(" + o + ")", walk.join(o), model.join(o));
+        is("join(" + o + ")", walk.join(o), model.join(o));
         break;
       case 8:
-        due.is("begun()", walk.begun(), model.begun());
+        is("begun()", walk.begun(), model.begun());
         break;
       default:
-        due.is("fewest()", walk.fewest(), model.fewest());
+        is("fewest()", walk.fewest(), model.fewest());
     }
   }
 
   private void order() {
     int length = from(1, below(3) > 0 ? Math.max(1, longest / 4) : longest);
     int eighths = below(8) == 0 ? from(0, 800000) : from(0, 60);
-    due.is("order(" + length + ", " + eighths + ")", walk.order(length, eighths), model.order(length, eighths));
+    is("order(" + length + ", " + eighths + ")", walk.order(length, eighths), model.order(length, eighths));
   }
 
   private void tackle() {
@@ -343,16 +354,16 @@ public final class ModelTest {
       case 0:
       case 1:
         int ropes = below(12) == 0 ? 0 : from(1, 8);
-        due.is("stage(" + ropes + ")", walk.stage(ropes), model.stage(ropes));
+        is("stage(" + ropes + ")", walk.stage(ropes), model.stage(ropes));
         break;
       case 2:
-        due.is("unstage()", walk.unstage(), model.unstage());
+        is("unstage()", walk.unstage(), model.unstage());
         break;
       case 3:
-        due.is("pull(" + load + ", " + what + ")", walk.pull(load, what), model.pull(load, what));
+        is("pull(" + load + ", " + what + ")", walk.pull(load, what), model.pull(load, what));
         break;
       default:
-        due.is("stress(" + k + ", " + load + ", " + what + ")", walk.stress(k, load, what),
+        is("stress(" + k + ", " + load + ", " + what + ")", walk.stress(k, load, what),
             model.stress(k, load, what));
     }
   }

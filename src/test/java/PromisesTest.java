@@ -53,38 +53,6 @@ public final class PromisesTest {
     due.end();
   }
 
-  // ---- pieces made in one go ----
-
-  private static int lay(RopeWalk x, int kind, int twist, int turns, int... parts) {
-    x.drop();
-    for (int p : parts) x.pick(p);
-    return x.lay(kind, twist, turns);
-  }
-
-  /** A strand of two new yarns: three pieces. */
-  private static int strand(RopeWalk x, int length, int eighths, int twist) {
-    return lay(x, STRAND, twist, 0, x.yarn(length, eighths), x.yarn(length, eighths));
-  }
-
-  /** A rope of three new strands: ten pieces, the rope the last of them. */
-  private static int rope(RopeWalk x, int length, int eighths, int twist) {
-    int other = 3 - twist;
-    return lay(x, ROPE, twist, 0, strand(x, length, eighths, other),
-        strand(x, length, eighths, other), strand(x, length, eighths, other));
-  }
-
-  /** What each place of such a rope bears: 6 yarns, by 0.875 and 0.75. */
-  private static double ropeBears(int eighths) {
-    return 6 * eighths * 0.125 * 0.875 * 0.75;
-  }
-
-  private static int wornYarn(RopeWalk x, int length, int eighths, int from, int to, int share) {
-    int p = x.yarn(length, eighths);
-    x.row(p, 1);
-    x.spot(p, 0, from, to, share);
-    return p;
-  }
-
   // ---- the promises ----
 
   private static void newObject() {
@@ -186,7 +154,7 @@ public final class PromisesTest {
     RopeWalk x = new RopeWalk();
     int a = x.yarn(100, 8);
     int b = x.tape(77, 16);
-    int s = lay(x, STRAND, LEFT, 400, a, b);
+    int s = Make.lay(x, STRAND, LEFT, 400, a, b);
     due.is("of(2, 0)", x.of(s, 0), STRAND);
     due.is("of(2, 1): 77 * 600 / 1000 cut down", x.of(s, 1), 46);
     due.is("of(2, 2)", x.of(s, 2), LEFT);
@@ -197,23 +165,23 @@ public final class PromisesTest {
     RopeWalk y = new RopeWalk();
     int[] nine = new int[9];
     for (int p = 0; p < 9; p++) nine[p] = y.tape(2000, 80000);
-    due.is("a strand of nine", lay(y, STRAND, RIGHT, 0, nine), 9);
+    due.is("a strand of nine", Make.lay(y, STRAND, RIGHT, 0, nine), 9);
     due.is("its parts", y.of(9, 4), 9);
     due.is("its length", y.of(9, 1), 2000);
     due.is("its weight", y.of(9, 5), 36000);
     RopeWalk z = new RopeWalk();
-    int r = lay(z, ROPE, LEFT, 1, strand(z, 50, 8, RIGHT), strand(z, 60, 8, RIGHT),
-        strand(z, 70, 8, RIGHT), strand(z, 80, 8, RIGHT));
+    int r = Make.lay(z, ROPE, LEFT, 1, Make.strand(z, 50, 8, RIGHT), Make.strand(z, 60, 8, RIGHT),
+        Make.strand(z, 70, 8, RIGHT), Make.strand(z, 80, 8, RIGHT));
     due.is("a rope of four: its parts", z.of(r, 4), 4);
     due.is("its length: 50 * 999 / 1000", z.of(r, 1), 49);
     due.is("its weight", z.of(r, 5), 520);
-    int c = lay(z, CABLE, RIGHT, 100, r, rope(z, 30, 8, LEFT), rope(z, 40, 8, LEFT));
+    int c = Make.lay(z, CABLE, RIGHT, 100, r, Make.rope(z, 30, 8, LEFT), Make.rope(z, 40, 8, LEFT));
     due.is("a cable: its kind", z.of(c, 0), CABLE);
     due.is("its length", z.of(c, 1), 27);
     due.is("its weight, with its length", z.of(c, 5), 520 + 180 + 240 + 27);
     RopeWalk w = new RopeWalk();
-    int spliced = w.splice(rope(w, 30, 8, RIGHT), rope(w, 30, 8, RIGHT), 1);
-    int d = lay(w, CABLE, LEFT, 0, spliced, rope(w, 90, 8, RIGHT), rope(w, 90, 8, RIGHT));
+    int spliced = w.splice(Make.rope(w, 30, 8, RIGHT), Make.rope(w, 30, 8, RIGHT), 1);
+    int d = Make.lay(w, CABLE, LEFT, 0, spliced, Make.rope(w, 90, 8, RIGHT), Make.rope(w, 90, 8, RIGHT));
     due.is("a cable of a splice: its length", w.of(d, 1), 59);
     due.is("its first part", w.part(d, 0), spliced);
   }
@@ -225,7 +193,7 @@ public final class PromisesTest {
     int a = x.yarn(10, 8);
     int b = x.yarn(10, 8);
     int one = x.yarn(1, 8);
-    due.is("one part", lay(x, STRAND, RIGHT, 0, a), -2);
+    due.is("one part", Make.lay(x, STRAND, RIGHT, 0, a), -2);
     x.pick(b);
     int[][] wrong = {{0, RIGHT, 0}, {4, RIGHT, 0}, {5, RIGHT, 0}, {-1, RIGHT, 0}, {STRAND, 0, 0},
         {STRAND, 3, 0}, {STRAND, RIGHT, -1}, {STRAND, RIGHT, 401}, {ROPE, RIGHT, 0},
@@ -237,11 +205,11 @@ public final class PromisesTest {
     due.is("picked still", x.count(5), 2);
     due.is("nothing new", x.count(0), 3);
     due.is("free still", x.of(a, 3), 0);
-    due.is("length 0", lay(x, STRAND, RIGHT, 1, a, one), -2);
-    due.is("length 1", lay(x, STRAND, RIGHT, 0, a, one), 3);
-    due.is("a strand in a strand", lay(x, STRAND, LEFT, 0, b, 3), -2);
+    due.is("length 0", Make.lay(x, STRAND, RIGHT, 1, a, one), -2);
+    due.is("length 1", Make.lay(x, STRAND, RIGHT, 0, a, one), 3);
+    due.is("a strand in a strand", Make.lay(x, STRAND, LEFT, 0, b, 3), -2);
     int c = x.yarn(10, 8);
-    lay(x, STRAND, RIGHT, 0);
+    Make.lay(x, STRAND, RIGHT, 0);
     x.pick(b);
     x.pick(c);
     x.hang(2, c);
@@ -255,51 +223,51 @@ public final class PromisesTest {
 
   private static void layRefusesParts() {
     RopeWalk x = new RopeWalk();
-    int s1 = strand(x, 10, 8, RIGHT);
-    int s2 = strand(x, 10, 8, RIGHT);
-    int s3 = strand(x, 10, 8, RIGHT);
-    int l = strand(x, 10, 8, LEFT);
+    int s1 = Make.strand(x, 10, 8, RIGHT);
+    int s2 = Make.strand(x, 10, 8, RIGHT);
+    int s3 = Make.strand(x, 10, 8, RIGHT);
+    int l = Make.strand(x, 10, 8, LEFT);
     int y = x.yarn(10, 8);
-    due.is("a rope of two", lay(x, ROPE, LEFT, 0, s1, s2), -2);
-    due.is("of the same twist", lay(x, ROPE, RIGHT, 0, s1, s2, s3), -2);
-    due.is("of mixed twists", lay(x, ROPE, LEFT, 0, s1, s2, l), -2);
-    due.is("with a yarn", lay(x, ROPE, LEFT, 0, s1, s2, y), -2);
-    due.is("a cable of strands", lay(x, CABLE, LEFT, 0, s1, s2, s3), -2);
-    due.is("a strand of strands", lay(x, STRAND, LEFT, 0, s1, s2, s3), -2);
-    int s4 = strand(x, 10, 8, RIGHT);
-    int s5 = strand(x, 10, 8, RIGHT);
-    due.is("a rope of five", lay(x, ROPE, LEFT, 0, s1, s2, s3, s4, s5), -2);
-    due.is("a rope of four", lay(x, ROPE, LEFT, 0, s1, s2, s3, s4), 19);
+    due.is("a rope of two", Make.lay(x, ROPE, LEFT, 0, s1, s2), -2);
+    due.is("of the same twist", Make.lay(x, ROPE, RIGHT, 0, s1, s2, s3), -2);
+    due.is("of mixed twists", Make.lay(x, ROPE, LEFT, 0, s1, s2, l), -2);
+    due.is("with a yarn", Make.lay(x, ROPE, LEFT, 0, s1, s2, y), -2);
+    due.is("a cable of strands", Make.lay(x, CABLE, LEFT, 0, s1, s2, s3), -2);
+    due.is("a strand of strands", Make.lay(x, STRAND, LEFT, 0, s1, s2, s3), -2);
+    int s4 = Make.strand(x, 10, 8, RIGHT);
+    int s5 = Make.strand(x, 10, 8, RIGHT);
+    due.is("a rope of five", Make.lay(x, ROPE, LEFT, 0, s1, s2, s3, s4, s5), -2);
+    due.is("a rope of four", Make.lay(x, ROPE, LEFT, 0, s1, s2, s3, s4), 19);
     RopeWalk z = new RopeWalk();
-    int r1 = rope(z, 10, 8, LEFT);
-    int r2 = rope(z, 10, 8, LEFT);
-    int r3 = rope(z, 10, 8, LEFT);
-    int r4 = rope(z, 10, 8, LEFT);
-    int other = rope(z, 10, 8, RIGHT);
-    due.is("a cable of two", lay(z, CABLE, RIGHT, 0, r1, r2), -2);
-    due.is("a cable of four", lay(z, CABLE, RIGHT, 0, r1, r2, r3, r4), -2);
-    due.is("a rope of ropes", lay(z, ROPE, RIGHT, 0, r1, r2, r3), -2);
-    due.is("a cable of the same twist", lay(z, CABLE, LEFT, 0, r1, r2, r3), -2);
-    due.is("a cable of mixed twists", lay(z, CABLE, RIGHT, 0, r1, r2, other), -2);
-    due.is("a cable", lay(z, CABLE, RIGHT, 0, r1, r2, r3), 50);
-    due.is("of a cable", lay(z, CABLE, LEFT, 0, 50, r4, other), -2);
+    int r1 = Make.rope(z, 10, 8, LEFT);
+    int r2 = Make.rope(z, 10, 8, LEFT);
+    int r3 = Make.rope(z, 10, 8, LEFT);
+    int r4 = Make.rope(z, 10, 8, LEFT);
+    int other = Make.rope(z, 10, 8, RIGHT);
+    due.is("a cable of two", Make.lay(z, CABLE, RIGHT, 0, r1, r2), -2);
+    due.is("a cable of four", Make.lay(z, CABLE, RIGHT, 0, r1, r2, r3, r4), -2);
+    due.is("a rope of ropes", Make.lay(z, ROPE, RIGHT, 0, r1, r2, r3), -2);
+    due.is("a cable of the same twist", Make.lay(z, CABLE, LEFT, 0, r1, r2, r3), -2);
+    due.is("a cable of mixed twists", Make.lay(z, CABLE, RIGHT, 0, r1, r2, other), -2);
+    due.is("a cable", Make.lay(z, CABLE, RIGHT, 0, r1, r2, r3), 50);
+    due.is("of a cable", Make.lay(z, CABLE, LEFT, 0, 50, r4, other), -2);
   }
 
   private static void layRefusesMore() {
     RopeWalk x = new RopeWalk();
     for (int p = 0; p < 119; p++) x.yarn(10, 8);
-    due.is("the 120th", lay(x, STRAND, RIGHT, 0, 0, 1), 119);
-    due.is("the 121st", lay(x, STRAND, RIGHT, 0, 2, 3), -2);
+    due.is("the 120th", Make.lay(x, STRAND, RIGHT, 0, 0, 1), 119);
+    due.is("the 121st", Make.lay(x, STRAND, RIGHT, 0, 2, 3), -2);
     due.is("free still", x.of(2, 3), 0);
   }
 
   private static void splice() {
     due.about("7 splice");
     RopeWalk x = new RopeWalk();
-    int a = rope(x, 20, 8, LEFT);
-    int b = rope(x, 12, 8, LEFT);
-    int c = rope(x, 12, 8, RIGHT);
-    int s = strand(x, 12, 8, LEFT);
+    int a = Make.rope(x, 20, 8, LEFT);
+    int b = Make.rope(x, 12, 8, LEFT);
+    int c = Make.rope(x, 12, 8, RIGHT);
+    int s = Make.strand(x, 12, 8, LEFT);
     int[][] wrong = {{-1, b, 1}, {a, -1, 1}, {a, 120, 1}, {Integer.MAX_VALUE, b, 1}, {a, a, 1},
         {a, c, 1}, {a, s, 1}, {s, a, 1}, {a, b, 0}, {a, b, 13}, {b, a, 13}, {a, b, -1},
         {a, b, Integer.MIN_VALUE}, {a, b, Integer.MAX_VALUE}, {0, b, 1}, {a, 0, 1}};
@@ -318,7 +286,7 @@ public final class PromisesTest {
     due.is("its second part", x.part(p, 1), a);
     due.is("laid", x.of(a, 3), 1);
     due.is("part of it", x.of(b, 6), p);
-    int d = rope(x, 5, 8, LEFT);
+    int d = Make.rope(x, 5, 8, LEFT);
     due.is("a part of it again", x.splice(a, d, 1), -2);
     due.is("a splice and a rope", x.of(x.splice(p, d, 1), 1), 24);
     spliceLong();
@@ -326,14 +294,14 @@ public final class PromisesTest {
 
   private static void spliceLong() {
     RopeWalk x = new RopeWalk();
-    int a = rope(x, 1500, 8, LEFT);
-    int b = rope(x, 600, 8, LEFT);
+    int a = Make.rope(x, 1500, 8, LEFT);
+    int b = Make.rope(x, 600, 8, LEFT);
     due.is("length 2001", x.splice(a, b, 99), -2);
     due.is("length 2000", x.splice(a, b, 100), 20);
     RopeWalk y = new RopeWalk();
-    int c = lay(y, CABLE, RIGHT, 0, rope(y, 9, 8, LEFT), rope(y, 9, 8, LEFT), rope(y, 9, 8, LEFT));
-    int d = rope(y, 9, 8, RIGHT);
-    int e = rope(y, 9, 8, RIGHT);
+    int c = Make.lay(y, CABLE, RIGHT, 0, Make.rope(y, 9, 8, LEFT), Make.rope(y, 9, 8, LEFT), Make.rope(y, 9, 8, LEFT));
+    int d = Make.rope(y, 9, 8, RIGHT);
+    int e = Make.rope(y, 9, 8, RIGHT);
     due.is("a cable and a rope", y.splice(c, d, 9), 51);
     y.hang(0, 51);
     due.is("one is hung", y.splice(51, e, 1), -2);
@@ -346,7 +314,7 @@ public final class PromisesTest {
   private static void untwist() {
     due.about("8 untwist");
     RopeWalk x = new RopeWalk();
-    int s = strand(x, 12, 8, LEFT);
+    int s = Make.strand(x, 12, 8, LEFT);
     for (int p : NO_PIECES) due.is("untwist(" + p + ")", x.untwist(p), -2);
     due.is("a yarn", x.untwist(0), -2);
     int y = x.tape(5, 5);
@@ -360,11 +328,11 @@ public final class PromisesTest {
     due.is("part of nothing", x.of(1, 6), -1);
     due.is("again", x.untwist(s), -2);
     due.is("pieces", x.count(0), 4);
-    due.is("laid anew", lay(x, STRAND, RIGHT, 0, 1, 0, y), 4);
+    due.is("laid anew", Make.lay(x, STRAND, RIGHT, 0, 1, 0, y), 4);
     RopeWalk z = new RopeWalk();
-    int r = rope(z, 10, 8, LEFT);
+    int r = Make.rope(z, 10, 8, LEFT);
     due.is("a laid strand", z.untwist(z.part(r, 0)), -2);
-    int p = z.splice(r, rope(z, 10, 8, LEFT), 3);
+    int p = z.splice(r, Make.rope(z, 10, 8, LEFT), 3);
     due.is("a splice", z.untwist(p), 2);
     due.is("a rope", z.untwist(r), 3);
     due.is("its strands are free", z.of(z.part(r, 2), 3), 0);
@@ -374,7 +342,7 @@ public final class PromisesTest {
   private static void of() {
     due.about("9 of");
     RopeWalk x = new RopeWalk();
-    int s = strand(x, 12, 8, LEFT);
+    int s = Make.strand(x, 12, 8, LEFT);
     for (int p : NO_PIECES) due.is("of(" + p + ", 0)", x.of(p, 0), -2);
     for (int what : new int[] {-1, 8, Integer.MIN_VALUE, Integer.MAX_VALUE}) {
       due.is("of(0, " + what + ")", x.of(0, what), -2);
@@ -400,7 +368,7 @@ public final class PromisesTest {
     int a = x.yarn(9, 9);
     int b = x.yarn(9, 9);
     int c = x.yarn(9, 9);
-    int s = lay(x, STRAND, LEFT, 0, c, a, b);
+    int s = Make.lay(x, STRAND, LEFT, 0, c, a, b);
     for (int p : NO_PIECES) due.is("part(" + p + ", 0)", x.part(p, 0), -2);
     int[] parts = {c, a, b};
     for (int k = 0; k < 3; k++) due.is("part(s, " + k + ")", x.part(s, k), parts[k]);
@@ -415,8 +383,8 @@ public final class PromisesTest {
   private static void count() {
     due.about("11 count");
     RopeWalk x = new RopeWalk();
-    int s = strand(x, 30, 8, LEFT);
-    int gone = strand(x, 30, 8, LEFT);
+    int s = Make.strand(x, 30, 8, LEFT);
+    int gone = Make.strand(x, 30, 8, LEFT);
     x.untwist(gone);
     int y = x.yarn(30, 8);
     x.hang(1, y);
@@ -437,7 +405,7 @@ public final class PromisesTest {
   private static void row() {
     due.about("12 row");
     RopeWalk x = new RopeWalk();
-    int s = strand(x, 12, 8, LEFT);
+    int s = Make.strand(x, 12, 8, LEFT);
     for (int p : NO_PIECES) due.is("row(" + p + ", 3)", x.row(p, 3), -2);
     due.is("no piece is asked first", x.row(50, -1), -2);
     due.is("row(0, 8)", x.row(0, 8), 8);
@@ -462,7 +430,7 @@ public final class PromisesTest {
   private static void lose() {
     due.about("13 lose");
     RopeWalk x = new RopeWalk();
-    int s = strand(x, 12, 8, LEFT);
+    int s = Make.strand(x, 12, 8, LEFT);
     for (int p : NO_PIECES) due.is("lose(" + p + ")", x.lose(p), -2);
     due.is("without one", x.lose(0), 0);
     x.row(0, 0);
@@ -483,7 +451,7 @@ public final class PromisesTest {
   private static void spot() {
     due.about("14 spot");
     RopeWalk x = new RopeWalk();
-    int s = strand(x, 12, 8, LEFT);
+    int s = Make.strand(x, 12, 8, LEFT);
     for (int p : NO_PIECES) due.is("spot(" + p + ")", x.spot(p, 0, 0, 0, 1), -2);
     due.is("without a row", x.spot(0, 0, 0, 0, 1), -10);
     due.is("without a row, no such spot", x.spot(0, -1, 0, 0, 1), -10);
@@ -522,7 +490,7 @@ public final class PromisesTest {
   private static void carry() {
     due.about("15 carry");
     RopeWalk x = new RopeWalk();
-    int s = strand(x, 12, 8, LEFT);
+    int s = Make.strand(x, 12, 8, LEFT);
     for (int p : NO_PIECES) {
       due.is("carry(" + p + ", ..)", x.carry(p, 0, 0, 0, 0), -2);
       due.is("carry(.., " + p + ", ..)", x.carry(0, 0, p, 0, 0), -2);
@@ -581,7 +549,7 @@ public final class PromisesTest {
   private static void bears() {
     due.about("16 bears");
     RopeWalk x = new RopeWalk();
-    int s = strand(x, 12, 8, LEFT);
+    int s = Make.strand(x, 12, 8, LEFT);
     for (int p : NO_PIECES) due.isReal("bears(" + p + ", 0)", x.bears(p, 0), -2.0);
     for (int at : new int[] {-1, 12, Integer.MIN_VALUE, Integer.MAX_VALUE}) {
       due.isReal("bears(s, " + at + ")", x.bears(s, at), -2.0);
@@ -597,9 +565,9 @@ public final class PromisesTest {
 
   private static void bearsByPlaces() {
     RopeWalk x = new RopeWalk();
-    int a = wornYarn(x, 10, 80, 3, 3, 0);
-    int b = wornYarn(x, 7, 40, 6, 6, 0);
-    int s = lay(x, STRAND, RIGHT, 400, a, b);
+    int a = Make.wornYarn(x, 10, 80, 3, 3, 0);
+    int b = Make.wornYarn(x, 7, 40, 6, 6, 0);
+    int s = Make.lay(x, STRAND, RIGHT, 400, a, b);
     due.is("its length", x.of(s, 1), 4);
     // The places of a, 10 long: 0 2 5 7; of b, 7 long: 0 1 3 5.
     for (int at = 0; at < 4; at++) due.isReal("bears(s, " + at + ")", x.bears(s, at), 13.125);
@@ -612,10 +580,10 @@ public final class PromisesTest {
     double[] wornToo = {13.125, 13.125, 3.28125, 8.203125};
     for (int at = 0; at < 4; at++) due.isReal("worn itself, " + at, x.bears(s, at), wornToo[at]);
     RopeWalk y = new RopeWalk();
-    int r = rope(y, 40, 8, LEFT);
-    due.isReal("a rope", y.bears(r, 39), ropeBears(8));
-    int c = lay(y, CABLE, RIGHT, 0, r, rope(y, 40, 16, LEFT), rope(y, 40, 24, LEFT));
-    due.isReal("a cable", y.bears(c, 0), 6 * ropeBears(8) * 0.625);
+    int r = Make.rope(y, 40, 8, LEFT);
+    due.isReal("a rope", y.bears(r, 39), Make.ropeBears(8));
+    int c = Make.lay(y, CABLE, RIGHT, 0, r, Make.rope(y, 40, 16, LEFT), Make.rope(y, 40, 24, LEFT));
+    due.isReal("a cable", y.bears(c, 0), 6 * Make.ropeBears(8) * 0.625);
   }
 
   private static void bearsInFloats() {
@@ -633,7 +601,7 @@ public final class PromisesTest {
       }
       sum = sum + share;
     }
-    int s = lay(x, STRAND, RIGHT, 0, yarns);
+    int s = Make.lay(x, STRAND, RIGHT, 0, yarns);
     due.isReal("rounded as floats are", x.bears(s, 4), sum * 0.875f);
     int tiny = x.yarn(3, 1);
     x.row(tiny, 8);
@@ -644,12 +612,12 @@ public final class PromisesTest {
   private static void bearsSpliced() {
     due.about("16 bears, spliced");
     RopeWalk x = new RopeWalk();
-    int a = rope(x, 10, 8, LEFT);
-    int b = rope(x, 6, 16, LEFT);
+    int a = Make.rope(x, 10, 8, LEFT);
+    int b = Make.rope(x, 6, 16, LEFT);
     x.row(b, 1);
     x.spot(b, 0, 1, 1, 2);
     int s = x.splice(a, b, 4);
-    double one = ropeBears(8);
+    double one = Make.ropeBears(8);
     double[] want = {one, one, one, one, one, one, 2 * one, one, 2 * one, 2 * one, 2 * one, 2 * one};
     due.is("its length", x.of(s, 1), 12);
     for (int at = 0; at < 12; at++) due.isReal("bears(s, " + at + ")", x.bears(s, at), want[at]);
@@ -660,8 +628,8 @@ public final class PromisesTest {
     due.isReal("worn itself, 10", x.bears(s, 10), one / 2);
     due.isReal("bears(s, 12)", x.bears(s, 12), -2.0);
     RopeWalk y = new RopeWalk();
-    int c = rope(y, 4, 8, LEFT);
-    int d = rope(y, 10, 16, LEFT);
+    int c = Make.rope(y, 4, 8, LEFT);
+    int d = Make.rope(y, 10, 16, LEFT);
     int t = y.splice(c, d, 4);
     due.is("one inside the other: its length", y.of(t, 1), 10);
     for (int at = 0; at < 10; at++) due.isReal("bears(t, " + at + ")", y.bears(t, at), 2 * one);
@@ -670,7 +638,7 @@ public final class PromisesTest {
   private static void least() {
     due.about("17 least");
     RopeWalk x = new RopeWalk();
-    int s = strand(x, 12, 8, LEFT);
+    int s = Make.strand(x, 12, 8, LEFT);
     for (int p : NO_PIECES) due.isReal("least(" + p + ")", x.least(p), -2.0);
     due.isReal("unworn", x.least(s), 1.75);
     x.row(0, 2);
@@ -689,7 +657,7 @@ public final class PromisesTest {
   private static void where() {
     due.about("18 where");
     RopeWalk x = new RopeWalk();
-    int s = strand(x, 12, 8, LEFT);
+    int s = Make.strand(x, 12, 8, LEFT);
     for (int p : NO_PIECES) due.is("where(" + p + ")", x.where(p), -2);
     due.is("unworn", x.where(s), 0);
     x.row(0, 3);
@@ -712,7 +680,7 @@ public final class PromisesTest {
   private static void grams() {
     due.about("19 grams");
     RopeWalk x = new RopeWalk();
-    int s = strand(x, 12, 8, LEFT);
+    int s = Make.strand(x, 12, 8, LEFT);
     for (int p : NO_PIECES) due.is("grams(" + p + ")", x.grams(p), -2);
     due.is("grams(s)", x.grams(s), 1750);
     int y = x.yarn(4, 79999);
@@ -735,7 +703,7 @@ public final class PromisesTest {
   private static void rest() {
     due.about("20 rest");
     RopeWalk x = new RopeWalk();
-    int s = strand(x, 12, 8, LEFT);
+    int s = Make.strand(x, 12, 8, LEFT);
     for (int p : NO_PIECES) due.isReal("rest(" + p + ", 1)", x.rest(p, 1), -2.0);
     for (int e : new int[] {0, -1, 80001, Integer.MIN_VALUE, Integer.MAX_VALUE}) {
       due.isReal("rest(s, " + e + ")", x.rest(s, e), -2.0);
@@ -759,7 +727,7 @@ public final class PromisesTest {
   private static void left() {
     due.about("21 left");
     RopeWalk x = new RopeWalk();
-    int s = strand(x, 12, 8, LEFT);
+    int s = Make.strand(x, 12, 8, LEFT);
     for (int p : NO_PIECES) due.isReal("left(" + p + ", 1)", x.left(p, 1), -2.0);
     for (int t : new int[] {0, -1, 1000001, Integer.MIN_VALUE, Integer.MAX_VALUE}) {
       due.isReal("left(s, " + t + ")", x.left(s, t), -2.0);
@@ -783,7 +751,7 @@ public final class PromisesTest {
   private static void turned() {
     due.about("22 turned");
     RopeWalk x = new RopeWalk();
-    int s = strand(x, 12, 8, LEFT);
+    int s = Make.strand(x, 12, 8, LEFT);
     for (int p : NO_PIECES) due.is("turned(" + p + ")", x.turned(p, 1, 1), -1000000L);
     int[][] wrong = {{-1, 0}, {80001, 0}, {0, -1}, {0, 13}, {Integer.MIN_VALUE, 0},
         {Integer.MAX_VALUE, 0}, {0, Integer.MIN_VALUE}, {0, Integer.MAX_VALUE}};
@@ -834,7 +802,7 @@ public final class PromisesTest {
   private static void hang() {
     due.about("23 hang");
     RopeWalk x = new RopeWalk();
-    int s = strand(x, 12, 8, LEFT);
+    int s = Make.strand(x, 12, 8, LEFT);
     int y = x.yarn(2000, 8);
     for (int p : NO_PIECES) due.is("hang(0, " + p + ")", x.hang(0, p), -2);
     due.is("no such piece is asked first", x.hang(6, 50), -2);
@@ -876,9 +844,9 @@ public final class PromisesTest {
   private static void take() {
     due.about("25 take");
     RopeWalk x = new RopeWalk();
-    int[] on = {x.yarn(9, 9), strand(x, 9, 9, LEFT), rope(x, 9, 9, LEFT),
-        lay(x, CABLE, RIGHT, 0, rope(x, 9, 9, LEFT), rope(x, 9, 9, LEFT), rope(x, 9, 9, LEFT)),
-        x.tape(9, 9), x.splice(rope(x, 9, 9, LEFT), rope(x, 9, 9, LEFT), 1)};
+    int[] on = {x.yarn(9, 9), Make.strand(x, 9, 9, LEFT), Make.rope(x, 9, 9, LEFT),
+        Make.lay(x, CABLE, RIGHT, 0, Make.rope(x, 9, 9, LEFT), Make.rope(x, 9, 9, LEFT), Make.rope(x, 9, 9, LEFT)),
+        x.tape(9, 9), x.splice(Make.rope(x, 9, 9, LEFT), Make.rope(x, 9, 9, LEFT), 1)};
     due.is("empty", x.take(0, 0), -10);
     for (int kind = 0; kind < 6; kind++) x.hang(kind, on[kind]);
     // Rows: what is on the reel; columns: what it is taken as.
@@ -925,7 +893,7 @@ public final class PromisesTest {
     due.is("too short", x.cut(0), -1);
     x.hang(2, x.yarn(90, 7));
     due.is("too weak", x.cut(0), -1);
-    int worn = wornYarn(x, 30, 16, 9, 9, 3);
+    int worn = Make.wornYarn(x, 30, 16, 9, 9, 3);
     x.hang(4, worn);
     due.is("behind the worn place", x.cut(0), 40010);
     due.is("again", x.cut(0), -2);
@@ -1034,7 +1002,7 @@ public final class PromisesTest {
     due.is("cut(0)", x.cut(0), 10000);
     due.is("none are left", x.fewest(), 0);
     RopeWalk y = new RopeWalk();
-    y.hang(2, wornYarn(y, 20, 80, 10, 10, 0));
+    y.hang(2, Make.wornYarn(y, 20, 80, 10, 10, 0));
     y.hang(4, y.yarn(18, 80));
     y.order(9, 8);
     y.order(9, 8);

@@ -13,6 +13,7 @@ public final class EdgesOfBearingTest {
     gone();
     laidAndHung();
     bearsPlaces();
+    bearsDeep();
     leastOfNothing();
     leastOfMost();
     leastOnOnePlace();
@@ -147,6 +148,28 @@ public final class EdgesOfBearingTest {
     due.isReal("a place of its part alone", y.bears(s, 6), -2.0);
     due.isReal("its own last place", y.bears(s, 5), 1.75);
     due.isReal("its part's last place", y.bears(0, 9), 1.0);
+  }
+
+  private static void bearsDeep() {
+    due.about("16 to 19 as deep as 120 pieces can lie in one another");
+    RopeWalk x = new RopeWalk();
+    int s = Make.rope(x, 20, 8, Make.LEFT);
+    for (int n = 2; n <= 11; n++) s = x.splice(s, Make.rope(x, 20, 8 * n, Make.LEFT), 10);
+    due.is("the last of 120", s, 119);
+    due.is("its length", x.of(s, 1), 120);
+    due.is("its weight", x.of(s, 5), 11 * 120);
+    // Where two ropes lie side by side, it is the later one that bears more.
+    for (int at = 0; at < 120; at++) {
+      int rope = Math.min(11, 1 + at / 10);
+      due.isReal("bears(s, " + at + ")", x.bears(s, at), rope * Make.ropeBears(8));
+    }
+    due.isReal("bears(s, 120)", x.bears(s, 120), -2.0);
+    Make.wear(x, 0, 3, 3, 0);
+    due.is("where its deepest yarn is worn", x.where(s), 3);
+    due.isReal("least(s)", x.least(s), Make.ropeBears(8) * 5 / 6);
+    due.is("hang(0, s)", x.hang(0, s), 120);
+    x.order(6, (int) (8 * Make.ropeBears(8)));
+    due.is("cut(0), behind it", x.cut(0), 4);
   }
 
   // ---- 17, 18 ----

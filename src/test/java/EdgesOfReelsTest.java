@@ -40,6 +40,7 @@ public final class EdgesOfReelsTest {
     cutNeedsNothing();
     cutInParts();
     cutStays();
+    cutAfterAnotherPiece();
     joinNoOrder();
     joinNotCut();
     joinAnswers();
@@ -581,6 +582,25 @@ public final class EdgesOfReelsTest {
     due.is("it fits no more", x.cut(0), -1);
     x.lose(0);
     due.is("it fits again", x.cut(0), 0);
+  }
+
+  private static void cutAfterAnotherPiece() {
+    due.about("27 what was on a reel before is nothing to what is on it");
+    RopeWalk x = new RopeWalk();
+    x.hang(0, Make.wornYarn(x, 40, 64, 20, 21, 0));
+    x.yarn(10, 64);
+    due.is("all of the longer one", cutNew(x, 40, 0), 0);
+    x.join(0);
+    x.off(0);
+    due.is("nothing is on it", x.cut(0), -1);
+    x.hang(0, 1);
+    due.is("more than the shorter one", cutNew(x, 11, 0), -1);
+    due.is("fewest()", x.fewest(), -1);
+    due.is("all of the shorter one", cutNew(x, 10, 64), 0);
+    x.join(2);
+    x.off(0);
+    x.hang(0, 0);
+    due.is("the longer one again", x.cut(0), 0);
   }
 
   // ---- 28, 29 ----

@@ -19,7 +19,15 @@ public final class NothingThrownTest {
 
   private NothingThrownTest(Supplier<RopeWalk> scene) {
     this.scene = scene;
-    walk = scene.get();
+    walk = anew();
+  }
+
+  /** With rows on the pieces that the calls hand over. */
+  private RopeWalk anew() {
+    RopeWalk x = scene.get();
+    x.row(0, 3);
+    x.row(1, 8);
+    return x;
   }
 
   public static void main(String[] args) throws IllegalAccessException {
@@ -48,7 +56,7 @@ public final class NothingThrownTest {
 
   private void call(Method m, Integer[] handed) throws IllegalAccessException {
     calls++;
-    if (calls % CALLS == 0) walk = scene.get();
+    if (calls % CALLS == 0) walk = anew();
     boolean thrown = false;
     try {
       m.invoke(walk, (Object[]) handed);
